@@ -268,7 +268,7 @@ public final class UnderFloor {
             return NONE;
         }
         if (what == 2) {
-            tellTimes(play, cellar.night);
+            law.fillTimes(plays[play], lawThatHolds(), cellar.night, job.times);
             return job.times[cue];
         }
         return what == 0 ? asked.letters[cue] : asked.numbers[cue];
@@ -319,9 +319,8 @@ public final class UnderFloor {
         return what == 0 || what == 1;
     }
 
-    private void tellTimes(int play, int night) {
-        Text held = lawHeld >= 0 && lawHeld < lawCount ? laws[lawHeld] : null;
-        law.fillTimes(plays[play], held, night, job.times);
+    private Text lawThatHolds() {
+        return lawHeld >= 0 && lawHeld < lawCount && lawHeld < laws.length ? laws[lawHeld] : null;
     }
 
     /** Lays out the job of a PLAY in the CELLAR as it stands; false: there is no such one. */
@@ -330,7 +329,7 @@ public final class UnderFloor {
             return false;
         }
         job.prepare(cellar, plays[play]);
-        tellTimes(play, cellar.night);
+        law.fillTimes(plays[play], lawThatHolds(), cellar.night, job.times);
         return true;
     }
 
@@ -513,10 +512,12 @@ public final class UnderFloor {
     }
 
     private int leastTogether(int play, int other) {
-        tellTimes(play, cellar.night);
-        int ones = leastInTrial(play);
-        tellTimes(other, cellar.night);
-        int others = leastInTrial(other);
+        job.prepare(trial, plays[play]);
+        law.fillTimes(plays[play], lawThatHolds(), cellar.night, job.times);
+        int ones = leastLates();
+        job.prepare(trial, plays[other]);
+        law.fillTimes(plays[other], lawThatHolds(), cellar.night, job.times);
+        int others = leastLates();
         return ones == NONE || others == NONE ? NONE : ones + others;
     }
 
@@ -564,7 +565,7 @@ public final class UnderFloor {
         int which = NONE;
         int most = NONE;
         for (int night = 0; night < n; night++) {
-            tellTimes(play, night);
+            law.fillTimes(plays[play], lawThatHolds(), night, job.times);
             int lates = latesByBook(job.allCues());
             if (lates > most) {
                 most = lates;
@@ -690,11 +691,14 @@ public final class UnderFloor {
             while (pos < text.length && text.bytes[pos] == BLANK) {
                 pos++;
             }
-            return signHere();
+            return pos < text.length ? text.bytes[pos] : END;
         }
 
-        private int signHere() {
-            return pos >= 0 && pos < text.length && pos < MOST_BYTES ? text.bytes[pos] : END;
+        /** Goes on behind the sign that was looked at. */
+        void pass() {
+            if (pos < text.length) {
+                pos++;
+            }
         }
 
         boolean take(int sign) {
@@ -706,7 +710,9 @@ public final class UnderFloor {
         }
 
         void need(int sign) {
-            if (!take(sign)) {
+            if (peek() == sign) {
+                pos++;
+            } else {
                 refuseAt(pos);
             }
         }
@@ -730,8 +736,8 @@ public final class UnderFloor {
                 return 0;
             }
             int number = 0;
-            for (int digits = 0; digits < most && isDigit(signHere()); digits++) {
-                number = 10 * number + signHere() - '0';
+            for (int digits = 0; digits < most && pos < text.length && isDigit(text.bytes[pos]); digits++) {
+                number = 10 * number + text.bytes[pos] - '0';
                 pos++;
             }
             return number;
@@ -767,7 +773,7 @@ public final class UnderFloor {
                 reader.refuseAt(reader.pos);
                 return;
             }
-            reader.take(letter);
+            reader.pass();
             int number = reader.number(MOST_DIGITS);
             if (cue > 0 && number < numbers[cue - 1]) {
                 reader.refuseAt(reader.pos - 1);
@@ -887,7 +893,7 @@ public final class UnderFloor {
                 reader.refuseAt(reader.pos);
                 return false;
             }
-            reader.take(sign);
+            reader.pass();
             return sign == '!' ? denied(within + 1) : enclosed(within + 1);
         }
 
@@ -908,7 +914,7 @@ public final class UnderFloor {
                 reader.refuseAt(reader.pos);
                 return false;
             }
-            reader.take(sign);
+            reader.pass();
             int right = sum(within);
             if (sign == '=') {
                 return left == right;
@@ -955,7 +961,7 @@ public final class UnderFloor {
                 return reader.number(MOST_DIGITS);
             }
             if (sign == '[' && within < MOST_WITHIN) {
-                reader.take(sign);
+                reader.pass();
                 int sum = sum(within + 1);
                 reader.need(']');
                 return sum;
@@ -971,9 +977,9 @@ public final class UnderFloor {
                 case 'n': worth = night; break;
                 case 'c': worth = crank; break;
                 case 'l': worth = howMany; break;
-                default: reader.refuseAt(reader.pos); break;
+                default: reader.refuseAt(reader.pos); return 0;
             }
-            reader.take(sign);
+            reader.pass();
             return worth;
         }
     }
@@ -1067,7 +1073,7 @@ public final class UnderFloor {
                 reader.refuseAt(reader.pos);
                 return;
             }
-            reader.take(reader.peek());
+            reader.pass();
             cells[place] = cell;
             if (cell == START) {
                 start = place;
@@ -1104,8 +1110,7 @@ public final class UnderFloor {
         }
 
         boolean isOpen(int place) {
-            int cell = cellAt(place);
-            return cell != OUTSIDE && cell != POST;
+            return place >= 0 && place < PLACES && cells[place] != OUTSIDE && cells[place] != POST;
         }
 
         boolean tellStoop(int seconds) {
@@ -1227,7 +1232,8 @@ public final class UnderFloor {
                 cranks[cue] = play.letters[cue];
                 winds[cue] = cellar.windOf(cranks[cue]);
             }
-            standAt(cellar, cellar.start, cellar.stoop);
+            stoop = cellar.stoop;
+            measure(cellar, FROM_START, cellar.start);
             for (int cue = 0; cue < size && cue < MOST_CUES; cue++) {
                 measure(cellar, cue, cellar.placeOf(cranks[cue]));
             }
@@ -1419,14 +1425,18 @@ public final class UnderFloor {
             int low = depth < fixed ? depth : 0;
             int high = depth < fixed ? depth + 1 : job.size;
             for (int cue = low; cue < high; cue++) {
-                if ((some >> cue & 1) == 1) {
-                    continue;
+                int come = (some >> cue & 1) == 1 ? NONE : job.comes(second, from, cue);
+                if (come != NONE) {
+                    follow(depth, some | 1 << cue, cue, come, cost, 10 * digits + cue);
                 }
-                int done = job.dones(job.comes(second, from, cue), cue);
-                int more = withLate(cost, done - job.times[cue]);
-                if (more < least && isNew(some | 1 << cue, cue, done, more)) {
-                    visit(depth + 1, some | 1 << cue, cue, done, more, 10 * digits + cue);
-                }
+            }
+        }
+
+        private void follow(int depth, int some, int cue, int come, int cost, int digits) {
+            int done = job.dones(come, cue);
+            int more = withLate(cost, done - job.times[cue]);
+            if (more < least && isNew(some, cue, done, more)) {
+                visit(depth + 1, some, cue, done, more, digits);
             }
         }
 
@@ -1486,19 +1496,23 @@ public final class UnderFloor {
         }
 
         private void gather(int depth, int some, int from, int second, int cost, int[] lates) {
-            if (some >= 0 && some < lates.length) {
-                lates[some] = Math.min(lates[some], cost);
+            if (some < 0 || some >= lates.length || depth > job.size) {
+                return;
             }
-            for (int cue = 0; cue < job.size && depth < MOST_CUES; cue++) {
-                int come = job.comes(second, from, cue);
-                if ((some >> cue & 1) == 1 || come == NONE) {
-                    continue;
+            lates[some] = Math.min(lates[some], cost);
+            for (int cue = 0; cue < job.size; cue++) {
+                int come = (some >> cue & 1) == 1 ? NONE : job.comes(second, from, cue);
+                if (come != NONE) {
+                    gatherBehind(depth, some | 1 << cue, cue, come, cost, lates);
                 }
-                int done = job.dones(come, cue);
-                int more = cost + done - job.times[cue];
-                if (isNew(some | 1 << cue, cue, done, more)) {
-                    gather(depth + 1, some | 1 << cue, cue, done, more, lates);
-                }
+            }
+        }
+
+        private void gatherBehind(int depth, int some, int cue, int come, int cost, int[] lates) {
+            int done = job.dones(come, cue);
+            int more = cost + done - job.times[cue];
+            if (isNew(some, cue, done, more)) {
+                gather(depth + 1, some, cue, done, more, lates);
             }
         }
     }
@@ -1546,15 +1560,18 @@ public final class UnderFloor {
                 return;
             }
             for (int cue = 0; cue < job.size && found == NONE; cue++) {
-                if ((some >> cue & 1) == 1) {
-                    continue;
+                int come = (some >> cue & 1) == 1 ? NONE : job.comes(second, from, cue);
+                if (come != NONE) {
+                    follow(depth, heard, some | 1 << cue, cue, come, 10 * digits + cue);
                 }
-                int come = job.comes(second, from, cue);
-                int done = job.dones(come, cue);
-                int more = heard | heardAt(job.cranks[cue], come, done);
-                if (!isMissed(more, done)) {
-                    visit(depth + 1, more, some | 1 << cue, cue, done, 10 * digits + cue);
-                }
+            }
+        }
+
+        private void follow(int depth, int heard, int some, int cue, int come, int digits) {
+            int done = job.dones(come, cue);
+            int more = heard | heardAt(job.cranks[cue], come, done);
+            if (!isMissed(more, done)) {
+                visit(depth + 1, more, some, cue, done, digits);
             }
         }
 

@@ -24,6 +24,10 @@ public final class CallsTest {
         for (int seed = 0; seed < runs; seed++) {
             new CallsTest(seed, seed % 40 == 0 ? 6 : seed % 4 == 0 ? 5 : 4).play(200);
         }
+        // the greatest PLAYS: the Oracle is slow there
+        for (int seed = runs; seed < runs + runs / 25; seed++) {
+            new CallsTest(seed, 8).play(80);
+        }
         KIT.close();
     }
 
