@@ -79,8 +79,8 @@ public final class UnderFloor {
         job = new Job(ways);
         boysJob = new Job(ways);
         run = new Run();
-        search = new Search();
-        thuds = new Thuds();
+        search = new Search(job);
+        thuds = new Thuds(job);
         lawHeld = NONE;
     }
 
@@ -1394,6 +1394,10 @@ public final class UnderFloor {
         private int least;
         private int order;
 
+        Search(Job first) {
+            job = first;
+        }
+
         /** The best ORDER among those whose first CUES are as in the BOOK; false: it can't be. */
         boolean seek(Job asked, int by, int first) {
             job = asked;
@@ -1526,6 +1530,10 @@ public final class UnderFloor {
         private int wanted;
         private int fits;
         private int found;
+
+        Thuds(Job first) {
+            job = first;
+        }
 
         boolean add(int second, int crank) {
             if (size >= MOST_THUDS) {

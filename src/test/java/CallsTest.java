@@ -68,6 +68,21 @@ public final class CallsTest {
         floor.end(0);
     }
 
+    /** A FAULT asked for, whatever it is, changes nothing but the tape. */
+    private void textsThatAreNotTaken() {
+        String text = texts.cellar(dice.from(1, 6), dice.from(5, 9), dice.from(1, 3), 2);
+        Kit.tape(floor, text.replace(" ", ""));
+        due("fault(0)", floor.fault(0), Oracle.NONE);
+        texts.play(3, 8, 20);
+        Kit.tape(floor, texts.text);
+        due("fault(1)", floor.fault(1), Oracle.NONE);
+        texts.law();
+        Kit.tape(floor, texts.text);
+        due("fault(2)", floor.fault(2), Oracle.NONE);
+        due("text(0) of a law", floor.text(0), Oracle.NONE);
+        floor.end(0);
+    }
+
     private boolean standsFor(int[][] cues) {
         for (int[] cue : cues) {
             if (oracle.place(cue[0]) == Oracle.NONE) {
@@ -153,7 +168,7 @@ public final class CallsTest {
                 flag("wind " + a + " " + v, floor.wind(a, v), oracle.wind(a, v)); break;
             case 5: flag("swap " + a + " " + b, floor.swap(a, b), oracle.swap(a, b)); break;
             case 6: flag("knock " + p, floor.knock(p), oracle.knock(p)); break;
-            case 7: if (dice.oneIn(3)) { newCellar(); } break;
+            case 7: if (dice.oneIn(3)) { newCellar(); } else { textsThatAreNotTaken(); } break;
             case 8: if (dice.oneIn(3)) { newPlay(); } break;
             case 9: if (dice.oneIn(2)) { newLaw(); } break;
             case 10: due("image", floor.image(), oracle.image()); break;

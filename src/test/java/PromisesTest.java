@@ -90,6 +90,11 @@ public final class PromisesTest {
         due("feed 160 and none", floor.feed(0, 0, 0, 0, 0), 160);
         due("end 159", floor.end(159), true);
         due("feed two beyond", floor.feed(0, 0x01000001, 0, 0, 0), NONE);
+        due("feed two beyond in the third", floor.feed(0, 0, 0x01000001, 0, 0), NONE);
+        due("feed two beyond in the fourth", floor.feed(0, 0, 0, 0x01000001, 0), NONE);
+        due("feed two beyond in the last", floor.feed(0, 0, 0, 0, 0x01000001), NONE);
+        due("feed two beyond in the first", floor.feed(0x01000001, 0, 0, 0, 0), NONE);
+        due("feed two beyond in two", floor.feed(0, 0, 1, 1, 0), NONE);
         due("changes nothing", floor.count(3), 159);
         due("feed the last", floor.feed(0, 0, 1, 0, 0), 160);
     }
@@ -214,6 +219,7 @@ public final class PromisesTest {
         due("the tape is empty", floor.count(3), 0);
         for (int i = 0; i < 5; i++) {
             due("a play", Kit.text(floor, 1, "A" + i), i);
+            due("the tape is empty behind a play", floor.count(3), 0);
         }
         due("a sixth play", Kit.text(floor, 1, "A1"), NONE);
         due("its tape stays", floor.count(3), 2);
@@ -221,6 +227,7 @@ public final class PromisesTest {
         due("the third is as told", floor.cue(2, 0, 1), 2);
         for (int i = 0; i < 4; i++) {
             due("a law", Kit.text(floor, 2, "y:" + i), i);
+            due("the tape is empty behind a law", floor.count(3), 0);
         }
         due("a fifth law", Kit.text(floor, 2, "y:1"), NONE);
         due("four laws", floor.count(2), 4);
@@ -534,6 +541,7 @@ public final class PromisesTest {
         UnderFloor two = floor(GRID, "A99", "B23,A99", "B23");
         due("age of five", two.age(1), 5);
         due("first is the second", two.first(), 1);
+        due("first of those that meet all", floor(GRID, "A99", "A99,B199").first(), 0);
         due("first without plays", floor(GRID).first(), NONE);
         due("knot of few rather than of low bits", floor(GRID, "A5,B9,C12").knot(0), 3);
         due("knot of one", floor(GRID, "A5,B9,D9,C99").knot(0), 3);
@@ -856,6 +864,7 @@ public final class PromisesTest {
         due("cranks as ahead", Kit.crank(floor, 1), 20);
         due("posts", floor.at(12), 1);
         due("posts away", floor.at(11), 0);
+        due("cranks in all", floor.count(0), 4);
         due("the law stays", floor.count(6), 0);
         due("thuds stay", floor.count(7), 1);
         due("the tape stays", floor.count(3), 1);
