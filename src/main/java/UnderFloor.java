@@ -1414,7 +1414,8 @@ public final class UnderFloor {
         }
 
         private void forget() {
-            for (int i = 0; i < SETS * MOST_CUES; i++) {
+            int all = (job.allCues() + 1) * MOST_CUES;
+            for (int i = 0; i < all && i < seconds.length; i++) {
                 seconds[i] = FAR;
                 costs[i] = FAR;
             }
