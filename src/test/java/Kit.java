@@ -60,6 +60,20 @@ final class Kit {
         return floor.text(sort);
     }
 
+    /** A new object with this CELLAR and these PLAYS. */
+    static UnderFloor floor(String cellar, String... plays) {
+        UnderFloor floor = new UnderFloor();
+        if (text(floor, 0, cellar) < 1) {
+            throw new IllegalStateException("no cellar: " + cellar);
+        }
+        for (String play : plays) {
+            if (text(floor, 1, play) < 0) {
+                throw new IllegalStateException("no play: " + play);
+            }
+        }
+        return floor;
+    }
+
     static int fault(int sort, String text) {
         UnderFloor floor = new UnderFloor();
         tape(floor, text);
