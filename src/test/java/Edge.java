@@ -12,6 +12,11 @@ final class Edge {
         int on(UnderFloor floor);
     }
 
+    /** A call of the face with one of its numbers left open. */
+    interface Told {
+        int on(UnderFloor floor, int v);
+    }
+
     private final Kit kit;
     private final Doc doc;
     private int section;
@@ -77,6 +82,16 @@ final class Edge {
         due(at, call.on(floor), want);
         String seen = Look.at(floor);
         due(at + " changes nothing, but " + difference(setup.seen(), seen), setup.seen().equals(seen), true);
+    }
+
+    /** A call that is refused with each of these numbers, and with those beyond all bounds, and changes nothing. */
+    void refuses(Setup setup, String name, int want, Told call, int... numbers) {
+        for (int v : numbers) {
+            still(setup, name + " with " + v, want, f -> call.on(f, v));
+        }
+        for (int v : BEYOND) {
+            still(setup, name + " with " + v, want, f -> call.on(f, v));
+        }
     }
 
     private static String difference(String one, String other) {

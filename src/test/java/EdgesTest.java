@@ -13,6 +13,7 @@ public final class EdgesTest {
         TapeEdges.all(edge);
         TextEdges.all(edge);
         LawEdges.all(edge);
+        CellarEdges.all(edge);
         for (String words : doc.unquoted()) {
             System.out.println("no test quotes " + words);
         }
