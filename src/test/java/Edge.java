@@ -94,6 +94,44 @@ final class Edge {
         }
     }
 
+    /** A call whose number is a PLAY, of which there is no such one. */
+    void noPlay(String name, Told call) {
+        refuses(Setup.NEW, name + " of play", NONE, call, -1, 0, 1, 4, 5);
+        refuses(Setup.NO_CELLAR, name + " of play", NONE, call, -1, 2, 5);
+        refuses(Setup.NO_PLAY, name + " of play", NONE, call, -1, 0, 1, 4, 5);
+        refuses(Setup.OPEN, name + " of play", NONE, call, -1, 2, 5);
+        refuses(Setup.FULL, name + " of play", NONE, call, -1, 5);
+    }
+
+    /** A call whose number is a PLAY that is there, while there is no CELLAR. */
+    void noCellar(String name, Told call) {
+        for (int play = 0; play < 2; play++) {
+            int each = play;
+            still(Setup.NO_CELLAR, name + " without a cellar of play " + play, NONE, f -> call.on(f, each));
+        }
+    }
+
+    /** A call whose number is a PLAY that can't be: for a wall, or for a CRANK that is not there. */
+    void cantBe(String name, Told call) {
+        still(Setup.OPEN, name + " of a play with a crank that is walled off", NONE, f -> call.on(f, 1));
+        still(Setup.FULL, name + " of a play with a crank that is walled off", NONE, f -> call.on(f, 1));
+        still(Setup.FULL, name + " of a play with a crank that is not there", NONE, f -> call.on(f, 2));
+    }
+
+    /** All these in one: of a call that tells of a PLAY in a CELLAR. */
+    void refusesPlays(String name, Told call) {
+        noPlay(name, call);
+        noCellar(name, call);
+        cantBe(name, call);
+    }
+
+    /** A call whose number tells which of two is asked for. */
+    void noHalf(String name, Told call) {
+        for (Setup setup : Setup.values()) {
+            refuses(setup, name + " what", NONE, call, -1, 2, 3);
+        }
+    }
+
     private static String difference(String one, String other) {
         String[] ones = one.split("\n");
         String[] others = other.split("\n");

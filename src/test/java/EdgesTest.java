@@ -14,6 +14,7 @@ public final class EdgesTest {
         TextEdges.all(edge);
         LawEdges.all(edge);
         CellarEdges.all(edge);
+        OrderEdges.all(edge);
         for (String words : doc.unquoted()) {
             System.out.println("no test quotes " + words);
         }
