@@ -113,9 +113,13 @@ final class Edge {
 
     /** A call whose number is a PLAY that can't be: for a wall, or for a CRANK that is not there. */
     void cantBe(String name, Told call) {
-        still(Setup.OPEN, name + " of a play with a crank that is walled off", NONE, f -> call.on(f, 1));
-        still(Setup.FULL, name + " of a play with a crank that is walled off", NONE, f -> call.on(f, 1));
-        still(Setup.FULL, name + " of a play with a crank that is not there", NONE, f -> call.on(f, 2));
+        cantBeIs(name, NONE, call);
+    }
+
+    void cantBeIs(String name, int want, Told call) {
+        still(Setup.OPEN, name + " of a play with a crank that is walled off", want, f -> call.on(f, 1));
+        still(Setup.FULL, name + " of a play with a crank that is walled off", want, f -> call.on(f, 1));
+        still(Setup.FULL, name + " of a play with a crank that is not there", want, f -> call.on(f, 2));
     }
 
     /** All these in one: of a call that tells of a PLAY in a CELLAR. */

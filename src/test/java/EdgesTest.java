@@ -15,6 +15,7 @@ public final class EdgesTest {
         LawEdges.all(edge);
         CellarEdges.all(edge);
         OrderEdges.all(edge);
+        BestEdges.all(edge);
         for (String words : doc.unquoted()) {
             System.out.println("no test quotes " + words);
         }

@@ -177,10 +177,10 @@ final class OrderEdges {
         edge.due("come to without the post", swapped.order(0, 0, 0), 2);
     }
 
-    /** Of all numbers around those of so many digits: which are ORDERS. */
-    private void allOrders(int cues, int beyond) {
-        UnderFloor floor = Kit.floor(Edge.ROW, EIGHT.substring(0, EIGHT.indexOf("ABCDEFGHI".charAt(cues - 1)) + (cues > 2 ? 3 : 2)));
-        edge.due("how many cues", floor.cue(0, NONE, 0), cues);
+    /** Of all numbers up to one beyond, and of those less than 0: which are ORDERS. */
+    private void allOrders(String play, int beyond) {
+        UnderFloor floor = Kit.floor(Edge.ROW, play);
+        int cues = floor.cue(0, NONE, 0);
         for (int order = -beyond; order <= beyond; order++) {
             edge.due("is " + order + " an order of " + cues, floor.order(0, order, 0) != NONE, isOrder(order, cues));
         }
@@ -198,10 +198,10 @@ final class OrderEdges {
 
     private void orders() {
         edge.says("(digits to the base 10, the first the highest, each once)");
-        allOrders(1, 300);
-        allOrders(2, 1300);
-        allOrders(3, 3500);
-        allOrders(4, 13500);
+        allOrders("A4", 300);
+        allOrders("A4,B8", 1300);
+        allOrders("A4,B8,C12", 3500);
+        allOrders("A4,B8,C12,D16", 13500);
         UnderFloor floor = Kit.floor(Edge.ROW, EIGHT);
         int[] right = {1234567, 76543210, 10234567, 1234576, 70123456, 1234657, 12345670};
         for (int order : right) {
