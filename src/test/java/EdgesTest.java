@@ -16,8 +16,10 @@ public final class EdgesTest {
         CellarEdges.all(edge);
         OrderEdges.all(edge);
         BestEdges.all(edge);
+        HelpEdges.all(edge);
+        HeardEdges.all(edge);
         for (String words : doc.unquoted()) {
-            System.out.println("no test quotes " + words);
+            kit.due("a test quotes " + words, false, true);
         }
         kit.close();
     }
