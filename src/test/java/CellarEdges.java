@@ -371,6 +371,8 @@ final class CellarEdges {
         edge.due("none of the longest", Kit.floor(SNAKE).dead(), 0);
         edge.due("a crank", Kit.floor("*#A").dead(), 1);
         edge.due("a free one", Kit.floor("A*#.").dead(), 1);
+        edge.due("the first place", Kit.floor(".#*A").dead(), 1);
+        edge.due("the last place", Kit.floor("*A......./........./........./........./........#/.......#.").dead(), 1);
         edge.due("across a corner", Kit.floor("*#/#A").dead(), 1);
         edge.due("no posts", Kit.floor("*A#######/#########").dead(), 0);
         edge.due("most", Kit.floor(SHUT).dead(), 51);

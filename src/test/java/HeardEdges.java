@@ -225,6 +225,9 @@ final class HeardEdges {
                 }
             }
         }
+        boyByHand("HGF.ABC/*..DE..", "A0,B0,C0,D0,E0,F0,G0,H0", 3, 2, 1);
+        boyByHand("*......./.ABCDEFG/.......H", "A9,B9,C9,D9,E20,F20,G20,H20", 26, 1, 3);
+        boyByHand("*......./.ABCDEFG/......H.", "A9,B9,C9,D9,E20,F20,G20,H20", 27, 3, 1);
         UnderFloor floor = Kit.floor(Edge.ROW, "A4,H4");
         boyIs(floor, 8, 1, 2, 0);
         boyIs(floor, 0, 1, 1, 0 + 7);

@@ -27,6 +27,7 @@ final class HelpEdges {
         edges.nightsRefused();
         edges.pillar();
         edges.pillarRefused();
+        edges.inAnyOrder();
     }
 
     private void postIs(String cellar, String play, int place, int lates) {
@@ -154,8 +155,11 @@ final class HelpEdges {
     }
 
     private void exchangeIs(String cellar, String one, String other, int which, int lates) {
-        UnderFloor floor = Kit.floor(cellar, one, other);
-        edge.due("exchange for " + one + " and " + other + " in " + cellar, floor.exchange(0, 1, 0), which);
+        exchangeIs(Kit.floor(cellar, one, other), one + " and " + other + " in " + cellar, which, lates);
+    }
+
+    private void exchangeIs(UnderFloor floor, String plays, int which, int lates) {
+        edge.due("exchange for " + plays, floor.exchange(0, 1, 0), which);
         edge.due("lates then", floor.exchange(0, 1, 1), lates);
         edge.due("the other way", floor.exchange(1, 0, 0), which);
         edge.due("lates the other way", floor.exchange(1, 0, 1), lates);
@@ -172,22 +176,34 @@ final class HelpEdges {
         edge.says("EXCHANGE for two PLAYS: the two CRANKS that, each in the other's PLACE, would make both together least");
         for (String cellar : CELLARS) {
             for (int plays = 0; plays < PLAYS.length * PLAYS.length; plays++) {
-                String first = PLAYS[plays / PLAYS.length];
-                String second = PLAYS[plays % PLAYS.length];
-                int which = 0;
-                int least = together(Kit.floor(cellar, first, second));
-                for (int pair = 0; pair < 64; pair++) {
-                    UnderFloor floor = Kit.floor(cellar, first, second);
-                    boolean there = pair / 8 < pair % 8 && floor.swap(pair / 8, pair % 8);
-                    int lates = there ? together(floor) : NONE;
-                    if (lates != NONE && (least == NONE || lates < least)) {
-                        least = lates;
-                        which = 10 * (pair / 8) + pair % 8;
-                    }
+                for (int stoop = 1; stoop <= 3; stoop += 2) {
+                    exchangeByHand(cellar, PLAYS[plays / PLAYS.length], PLAYS[plays % PLAYS.length], stoop);
                 }
-                exchangeIs(cellar, first, second, least == NONE ? NONE : which, least);
             }
         }
+    }
+
+    private static UnderFloor two(String cellar, String first, String second, int stoop) {
+        UnderFloor floor = Kit.floor(cellar, first, second);
+        floor.set(0, stoop);
+        floor.wind(0, 3 * stoop);
+        return floor;
+    }
+
+    private void exchangeByHand(String cellar, String first, String second, int stoop) {
+        int which = 0;
+        int least = together(two(cellar, first, second, stoop));
+        for (int pair = 0; pair < 64; pair++) {
+            UnderFloor floor = two(cellar, first, second, stoop);
+            boolean there = pair / 8 < pair % 8 && floor.swap(pair / 8, pair % 8);
+            int lates = there ? together(floor) : NONE;
+            if (lates != NONE && (least == NONE || lates < least)) {
+                least = lates;
+                which = 10 * (pair / 8) + pair % 8;
+            }
+        }
+        UnderFloor floor = two(cellar, first, second, stoop);
+        exchangeIs(floor, first + " and " + second + " in " + cellar, least == NONE ? NONE : which, least);
     }
 
     private void exchangeTies() {
@@ -421,5 +437,43 @@ final class HelpEdges {
             edge.due("it can't be as it is", Kit.floor("*.#A", "A0").pillar(0, what), NONE);
         }
         edge.noHalf("pillar", (f, what) -> f.pillar(0, what));
+    }
+
+    private static int whatIf(UnderFloor floor, int call) {
+        int play = call / 2 % 2;
+        switch (call / 4) {
+            case 0: return floor.post(play, call % 2);
+            case 1: return floor.rope(play, call % 2);
+            case 2: return floor.exchange(play, 2 - play, call % 2);
+            case 3: return floor.pillar(play, call % 2);
+            case 4: return floor.nights(play, 30, call % 2);
+            case 5: return floor.skip(play, 1, 1 + call % 2);
+            case 6: return floor.boy(play, 40, 2, call % 2);
+            case 7: return floor.slack(play, call % 2);
+            case 8: return floor.urgent(play);
+            case 9: return floor.mend(play, 1, call % 2);
+            case 10: return floor.best(play, call % 3, call % 2);
+            case 11: return floor.fault(call % 3);
+            default: return floor.age(play);
+        }
+    }
+
+    /** What is asked ahead of a call leaves nothing behind, not even a CELLAR that the tape alone holds. */
+    private void inAnyOrder() {
+        int calls = 13 * 4;
+        for (int ahead = 0; ahead < calls; ahead++) {
+            UnderFloor floor = Setup.OPEN.floor();
+            Kit.text(floor, 1, "B9,A15,C40");
+            Kit.tape(floor, "HG#/B.*/DC.");
+            int first = whatIf(floor, ahead);
+            for (int i = 0; i < calls; i++) {
+                int call = (ahead + 7 * i) % calls;
+                UnderFloor alone = Setup.OPEN.floor();
+                Kit.text(alone, 1, "B9,A15,C40");
+                Kit.tape(alone, "HG#/B.*/DC.");
+                edge.due("call " + call + " behind others", whatIf(floor, call), whatIf(alone, call));
+            }
+            edge.due("call " + ahead + " again", whatIf(floor, ahead), first);
+        }
     }
 }
