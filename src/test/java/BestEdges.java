@@ -45,11 +45,11 @@ final class BestEdges {
         for (String cellar : new String[] {Edge.ROW, "H.G.F../A#*#B../..C.D.E"}) {
             for (int stoop = 1; stoop <= 9; stoop += 4) {
                 for (String play : PLAYS) {
-                    UnderFloor floor = Kit.floor(cellar, play);
-                    floor.set(0, stoop);
+                    int seconds = stoop;
+                    Fresh fresh = new Fresh(() -> stooping(cellar, play, seconds));
                     for (int wish = 0; wish < 3; wish++) {
-                        int[] best = Orders.best(floor, 0, wish, 0);
-                        bestIs(floor, 0, wish, best[0], best[1]);
+                        int[] best = Orders.best(fresh, 0, wish, 0);
+                        bestIs(stooping(cellar, play, seconds), 0, wish, best[0], best[1]);
                     }
                 }
             }
@@ -58,6 +58,12 @@ final class BestEdges {
         bestIs(Kit.floor(Edge.ROW, "A3"), 0, 0, 0, 1);
         bestIs(Kit.floor(Edge.ROW, "A0"), 0, 1, 0, 4);
         bestIs(Kit.floor(Edge.ROW, "A3"), 0, 2, 0, 1);
+    }
+
+    private static UnderFloor stooping(String cellar, String play, int stoop) {
+        UnderFloor floor = Kit.floor(cellar, play);
+        floor.set(0, stoop);
+        return floor;
     }
 
     private void bestTies() {
@@ -80,11 +86,13 @@ final class BestEdges {
     }
 
     private void bestOfEight() {
-        UnderFloor floor = Kit.floor(Edge.ROW, "A4,B8,C12,D16,E20,F24,G28,H32", "H0,A1,G2,B3,F4,C5,E6,D7", "D20,D20,A30,H30,B30,G50,C50,E50");
+        String[] plays = {"A4,B8,C12,D16,E20,F24,G28,H32", "H0,A1,G2,B3,F4,C5,E6,D7", "D20,D20,A30,H30,B30,G50,C50,E50"};
+        UnderFloor floor = Kit.floor(Edge.ROW, plays);
+        Fresh fresh = new Fresh(Edge.ROW, plays);
         for (int wish = 0; wish < 3; wish++) {
             bestIs(floor, 0, wish, 1234567, 0);
             for (int play = 1; play < 3; play++) {
-                int[] best = Orders.best(floor, play, wish, 0);
+                int[] best = Orders.best(fresh, play, wish, 0);
                 bestIs(floor, play, wish, best[0], best[1]);
             }
         }
@@ -95,7 +103,7 @@ final class BestEdges {
         edge.says(": BEST: the ORDER (0), how much or how many (1).");
         for (Setup setup : new Setup[] {Setup.OPEN, Setup.FULL}) {
             for (int wish = 0; wish < 3; wish++) {
-                int[] best = Orders.best(setup.floor(), 0, wish, 0);
+                int[] best = Orders.best(new Fresh(setup::floor), 0, wish, 0);
                 int each = wish;
                 edge.still(setup, "best by " + wish, best[0], f -> f.best(0, each, 0));
                 edge.still(setup, "how much by " + wish, best[1], f -> f.best(0, each, 1));
@@ -130,7 +138,7 @@ final class BestEdges {
         for (String play : PLAYS) {
             UnderFloor floor = Kit.floor(Edge.ROW, play);
             for (int some = 1; some < 1 << floor.cue(0, NONE, 0); some++) {
-                UnderFloor alone = Kit.floor(Edge.ROW, part(play, some));
+                Fresh alone = new Fresh(Edge.ROW, part(play, some));
                 edge.due("met " + some + " of " + play, floor.met(0, some), Orders.best(alone, 0, 0, 0)[1] == 0 ? 1 : 0);
             }
         }
@@ -176,12 +184,12 @@ final class BestEdges {
     }
 
     private void knotIs(String cellar, String play, int want) {
-        UnderFloor floor = Kit.floor(cellar, play);
-        edge.due("knot of " + play, floor.knot(0), want);
+        Fresh fresh = new Fresh(cellar, play);
+        edge.due("knot of " + play, fresh.floor().knot(0), want);
         int fewest = NONE;
-        for (int some = 1; some < 1 << floor.cue(0, NONE, 0); some++) {
+        for (int some = 1; some < 1 << play.split(",").length; some++) {
             boolean fewer = fewest == NONE || Integer.bitCount(some) < Integer.bitCount(fewest);
-            fewest = fewer && floor.met(0, some) == 0 ? some : fewest;
+            fewest = fewer && fresh.floor().met(0, some) == 0 ? some : fewest;
         }
         edge.due("by all sets of " + play, fewest, want);
     }
@@ -300,7 +308,7 @@ final class BestEdges {
             UnderFloor floor = Kit.floor(Edge.ROW, play);
             int size = floor.cue(0, NONE, 0);
             for (int k = 0; k <= size; k++) {
-                int[] best = Orders.best(floor, 0, 0, k);
+                int[] best = Orders.best(new Fresh(Edge.ROW, play), 0, 0, k);
                 edge.due("mend " + k + " of " + play, floor.mend(0, k, 0), best[0]);
                 edge.due("lates of mend " + k + " of " + play, floor.mend(0, k, 1), best[1]);
             }
@@ -309,9 +317,10 @@ final class BestEdges {
             edge.due("all but one by the book", floor.mend(0, size - 1, 1), floor.nights(0, 1, 1));
             edge.due("none beyond", floor.mend(0, size + 1, 0), NONE);
         }
-        UnderFloor eight = Kit.floor(Edge.ROW, "H0,A1,G2,B3,F4,C5,E6,D7");
+        String cues = "H0,A1,G2,B3,F4,C5,E6,D7";
+        UnderFloor eight = Kit.floor(Edge.ROW, cues);
         for (int k = 2; k <= 8; k++) {
-            int[] best = Orders.best(eight, 0, 0, k);
+            int[] best = Orders.best(new Fresh(Edge.ROW, cues), 0, 0, k);
             edge.due("mend " + k + " of eight", eight.mend(0, k, 0), best[0]);
             edge.due("lates of mend " + k + " of eight", eight.mend(0, k, 1), best[1]);
         }
@@ -326,7 +335,7 @@ final class BestEdges {
         edge.promise(32);
         edge.says(": MEND: the ORDER (0), LATES (1).");
         for (int k = 0; k <= 4; k++) {
-            int[] best = Orders.best(Setup.OPEN.floor(), 0, 0, k);
+            int[] best = Orders.best(new Fresh(Setup.OPEN::floor), 0, 0, k);
             int each = k;
             edge.still(Setup.OPEN, "mend " + k, best[0], f -> f.mend(0, each, 0));
             edge.still(Setup.OPEN, "lates of mend " + k, best[1], f -> f.mend(0, each, 1));

@@ -66,14 +66,18 @@ final class CellarEdges {
 
     /** All WAYS of a CELLAR, held against those found by shortening ever more. */
     private void allWays(String cellar) {
-        UnderFloor floor = Kit.floor(cellar);
+        Fresh fresh = new Fresh(cellar);
         int far = 1000;
+        boolean[] open = new boolean[60];
+        for (int place = 0; place < 60; place++) {
+            int at = fresh.floor().at(place);
+            open[place] = at != NONE && at != 1;
+        }
         int[][] ways = new int[60][60];
         for (int from = 0; from < 60; from++) {
             for (int to = 0; to < 60; to++) {
                 int apart = Math.abs(from / 10 - to / 10) + Math.abs(from % 10 - to % 10);
-                boolean open = floor.at(from) != NONE && floor.at(from) != 1 && floor.at(to) != NONE && floor.at(to) != 1;
-                ways[from][to] = open && apart < 2 ? apart : far;
+                ways[from][to] = open[from] && open[to] && apart < 2 ? apart : far;
             }
         }
         for (int over = 0; over < 60; over++) {
@@ -85,7 +89,8 @@ final class CellarEdges {
         }
         for (int from = 0; from < 60; from++) {
             for (int to = 0; to < 60; to++) {
-                edge.due("way " + from + " " + to + " in " + cellar, floor.way(from, to), ways[from][to] < far ? ways[from][to] : NONE);
+                int want = ways[from][to] < far ? ways[from][to] : NONE;
+                edge.due("way " + from + " " + to + " in " + cellar, fresh.floor().way(from, to), want);
             }
         }
     }
@@ -111,18 +116,15 @@ final class CellarEdges {
 
     private void winds() {
         edge.says("Each CRANK takes WIND seconds (1 .. 30; 3 at first).");
-        UnderFloor floor = Kit.floor(Edge.ROW, "A0,B0,C0,D0,E0,F0,G0,H0");
         for (int crank = 0; crank < 8; crank++) {
+            UnderFloor floor = Kit.floor(Edge.ROW, "A0,B0,C0,D0,E0,F0,G0,H0");
             edge.due("wound at first " + crank, wound(floor, crank), 3);
-        }
-        for (int wind = 1; wind <= 30; wind++) {
-            for (int crank = 0; crank < 8; crank++) {
+            for (int wind = 1; wind <= 30; wind++) {
                 edge.due("wind " + crank + " " + wind, floor.wind(crank, wind), true);
                 edge.due("wound " + crank, wound(floor, crank), wind);
-                edge.due("the next is as it was", wound(floor, (crank + 1) % 8), crank == 7 ? wind : wind == 1 ? 3 : wind - 1);
+                edge.due("the next is as at first", wound(floor, (crank + 1) % 8), 3);
+                edge.due("the one ahead is as at first", wound(floor, (crank + 7) % 8), 3);
             }
-        }
-        for (int crank = 0; crank < 8; crank++) {
             edge.due("wind " + crank + " 0", floor.wind(crank, 0), false);
             edge.due("wind " + crank + " 31", floor.wind(crank, 31), false);
             edge.due("still wound", wound(floor, crank), 30);
@@ -316,7 +318,7 @@ final class CellarEdges {
         UnderFloor floor = Kit.floor(Setup.CELLAR);
         int posts = 10;
         edge.due("posts at first", floor.count(8), posts);
-        for (int place = -11; place < 111; place++) {
+        for (int place = -11; place < 71; place++) {
             boolean post = floor.at(place) == 1;
             posts -= post ? 1 : 0;
             edge.due("knock " + place, floor.knock(place), post);

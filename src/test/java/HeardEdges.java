@@ -101,13 +101,13 @@ final class HeardEdges {
     }
 
     /** All ORDERS by which the HAND was at all THUDS (second, CRANK, ..), by asking where it is. */
-    private static List<Integer> fitting(UnderFloor floor, int play, int... thuds) {
+    private static List<Integer> fitting(Fresh fresh, int play, int... thuds) {
         List<Integer> fitting = new ArrayList<>();
-        int size = floor.cue(play, NONE, 0);
+        int size = fresh.floor().cue(play, NONE, 0);
         for (int order = 0; order < (int) Math.pow(10, size); order++) {
-            boolean fits = floor.walk(play, order, 0) != NONE;
+            boolean fits = fresh.floor().walk(play, order, 0) != NONE;
             for (int i = 0; i < thuds.length && fits; i += 2) {
-                fits = floor.where(play, order, thuds[i]) == thuds[i + 1];
+                fits = fresh.floor().where(play, order, thuds[i]) == thuds[i + 1];
             }
             if (fits) {
                 fitting.add(order);
@@ -127,7 +127,7 @@ final class HeardEdges {
                 for (int i = 0; i < each.length; i += 2) {
                     edge.due("thud", floor.thud(each[i], each[i + 1]), i / 2 + 1);
                 }
-                List<Integer> fitting = fitting(floor, 0, each);
+                List<Integer> fitting = fitting(new Fresh(Edge.ROW, play), 0, each);
                 edge.due("fit of " + play, floor.fit(0, NONE), fitting.size());
                 for (int i = 0; i < fitting.size(); i++) {
                     edge.due("fit " + i + " of " + play, floor.fit(0, i), fitting.get(i));

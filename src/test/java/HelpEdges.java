@@ -323,10 +323,10 @@ final class HelpEdges {
         edge.says("NIGHTS: of NIGHTS 0 .. n less 1 (1 .. 30) that with the most LATE together by the BOOK (of several the first).");
         String[] laws = {"y:n=29?0-3", "y:n=0?0-3", "y:n=5|n=9?0-3", "y:0-n"};
         for (String law : laws) {
-            UnderFloor floor = Kit.floor("*A.B", "B6,A11");
-            Kit.text(floor, 2, law);
-            floor.set(2, 0);
             for (int n = 1; n <= 30; n++) {
+                UnderFloor floor = Kit.floor("*A.B", "B6,A11");
+                Kit.text(floor, 2, law);
+                floor.set(2, 0);
                 int which = 0;
                 int most = NONE;
                 for (int night = 0; night < n; night++) {

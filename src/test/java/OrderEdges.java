@@ -179,10 +179,10 @@ final class OrderEdges {
 
     /** Of all numbers up to one beyond, and of those less than 0: which are ORDERS. */
     private void allOrders(String play, int beyond) {
-        UnderFloor floor = Kit.floor(Edge.ROW, play);
-        int cues = floor.cue(0, NONE, 0);
+        Fresh fresh = new Fresh(Edge.ROW, play);
+        int cues = fresh.floor().cue(0, NONE, 0);
         for (int order = -beyond; order <= beyond; order++) {
-            edge.due("is " + order + " an order of " + cues, floor.order(0, order, 0) != NONE, isOrder(order, cues));
+            edge.due("is " + order + " an order of " + cues, fresh.floor().order(0, order, 0) != NONE, isOrder(order, cues));
         }
     }
 

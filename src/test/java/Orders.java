@@ -1,22 +1,22 @@
 /** The best ORDER found by asking for each of them, the least as digits first. */
 final class Orders {
-    private final UnderFloor floor;
+    private final Fresh fresh;
     private final int play;
     private final int wish;
     private final int size;
     private int order = Edge.NONE;
     private int least = Edge.NONE;
 
-    private Orders(UnderFloor floor, int play, int wish) {
-        this.floor = floor;
+    private Orders(Fresh fresh, int play, int wish) {
+        this.fresh = fresh;
         this.play = play;
         this.wish = wish;
-        size = floor.cue(play, Edge.NONE, 0);
+        size = fresh.floor().cue(play, Edge.NONE, 0);
     }
 
     /** The ORDER and what it costs, of those whose first CUES are as in the BOOK. */
-    static int[] best(UnderFloor floor, int play, int wish, int fixed) {
-        Orders orders = new Orders(floor, play, wish);
+    static int[] best(Fresh fresh, int play, int wish, int fixed) {
+        Orders orders = new Orders(fresh, play, wish);
         int digits = 0;
         for (int cue = 0; cue < fixed; cue++) {
             digits = 10 * digits + cue;
@@ -27,7 +27,7 @@ final class Orders {
 
     private void tryAll(int depth, int some, int digits) {
         if (depth == size) {
-            int cost = floor.order(play, digits, wish);
+            int cost = fresh.floor().order(play, digits, wish);
             if (cost != Edge.NONE && (least == Edge.NONE || cost < least)) {
                 least = cost;
                 order = digits;
