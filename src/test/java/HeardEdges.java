@@ -165,6 +165,13 @@ final class HeardEdges {
         edge.still(Setup.FULL, "fit of one", 1, f -> f.fit(3, NONE));
         edge.still(Setup.FULL, "fit 0 of one", 0, f -> f.fit(3, 0));
         edge.cantBeIs("fit, of which there are none", 0, (f, play) -> f.fit(play, NONE));
+        fitOfNone("*A#B", "B1");
+        fitOfNone("*A#B", "C1");
+        fitOfNone("*A#B", "B1,A5");
+        fitOfNone("*A#B", "A1,B5");
+        fitOfNone("*A#B", "C1,A5,A6");
+        fitOfNone("*A#B", "A1,A5,C6");
+        fitOfNone("*A#B", "A1,C5,A6");
         edge.says("NONE: no such one, no such PLAY, no CELLAR.");
         edge.cantBe("fit 0", (f, play) -> f.fit(play, 0));
         for (int i = NONE; i <= 1; i++) {
@@ -176,6 +183,15 @@ final class HeardEdges {
             edge.refuses(setup, "fit", NONE, (f, i) -> f.fit(0, i), -2, -3, 6, 24);
         }
         edge.refuses(Setup.FULL, "fit of one", NONE, (f, i) -> f.fit(3, i), -2, 1);
+    }
+
+    /** Without THUDS all ORDERS fit, but those with a CUE that can't be DONE are none. */
+    private void fitOfNone(String cellar, String play) {
+        UnderFloor floor = Kit.floor(cellar, play);
+        edge.due("fit of " + play + " that can't be", floor.fit(0, NONE), 0);
+        edge.due("the first of " + play, floor.fit(0, 0), NONE);
+        floor.thud(2, 0);
+        edge.due("with a thud, of " + play, floor.fit(0, NONE), 0);
     }
 
     private void boyIs(UnderFloor floor, int place, int stoop, int some, int lates) {

@@ -21,6 +21,7 @@ final class OrderEdges {
         edges.order();
         edges.done();
         edges.where();
+        edges.whereBehindMore();
         edges.whereRefused();
         edges.walk();
         edges.walkRefused();
@@ -301,6 +302,20 @@ final class OrderEdges {
         int[] at = {GOES, 0, 0, 0, 0, 1, 1, 1, 1, ALL_DONE};
         for (int second = 0; second < at.length; second++) {
             edge.due("where beside at " + second, beside.where(0, 1, second), at[second]);
+        }
+    }
+
+    /** Asked behind a PLAY with more CUES: nothing of it may be left. */
+    private void whereBehindMore() {
+        UnderFloor floor = Kit.floor(Edge.ROW, EIGHT, "A0", "B6,A9");
+        for (int second = 0; second <= 40; second++) {
+            floor.where(0, 76543210, second);
+            edge.due("where with one at " + second, floor.where(1, 0, second), second < 1 ? GOES : second <= 4 ? 0 : ALL_DONE);
+            floor.where(0, 1234567, second);
+            edge.due("where with one at " + second, floor.where(1, 0, second), second < 1 ? GOES : second <= 4 ? 0 : ALL_DONE);
+            floor.where(0, 1234567, second);
+            int want = second < 2 ? GOES : second <= 6 ? 1 : second < 7 ? GOES : second <= 10 ? 0 : ALL_DONE;
+            edge.due("where with two at " + second, floor.where(2, 1, second), want);
         }
     }
 
