@@ -253,10 +253,26 @@ final class TapeEdges {
         for (int sort : Edge.BEYOND) {
             edge.due("text " + sort, Setup.OPEN.floor().text(sort), NONE);
         }
+        for (int sort : new int[] {-1, 3, 4, Edge.BEYOND[0], Edge.BEYOND[1], Edge.BEYOND[2], Edge.BEYOND[3]}) {
+            noSort(sort);
+        }
         edge.still(Setup.NEW, "text(1) of nothing", NONE, f -> f.text(1));
         edge.still(Setup.FULL, "text(1) with a fault", NONE, f -> f.text(1));
         refusedFor(1, "H1");
         refusedFor(2, "y:7");
+    }
+
+    /** A tape that is right as one sort is not taken as one that there isn't. */
+    private void noSort(int sort) {
+        String[] right = {"*A.", "A1,B2", "y:1"};
+        for (int i = 0; i < right.length; i++) {
+            UnderFloor floor = new UnderFloor();
+            edge.due("text(" + sort + ") of " + right[i], Kit.text(floor, sort, right[i]), NONE);
+            edge.due("the tape stays", floor.count(3), right[i].length());
+            edge.due("nothing is taken", floor.count(0) + floor.count(1) + floor.count(2), 0);
+            edge.due("the fault as no such sort", floor.fault(sort), -2);
+            edge.due("it can still be taken", floor.text(i), i == 0 ? 1 : 0);
+        }
     }
 
     /** One more of a sort than there can be: the tape stays, and can still be taken as another sort. */
