@@ -1382,7 +1382,8 @@ public final class UnderFloor {
 
     /** Looks through the ORDERS of a job, the least as digits first. */
     private static final class Search {
-        private static final int FAR = Integer.MAX_VALUE;
+        /** More than any second or any LATES; two of it are no number that wraps around. */
+        private static final int FAR = 1000000000;
 
         private final int[] seconds = new int[SETS * MOST_CUES];
         private final int[] costs = new int[SETS * MOST_CUES];

@@ -5,6 +5,7 @@ import java.lang.reflect.Modifier;
 import java.nio.file.Files;
 import java.nio.file.Path;
 import java.util.List;
+import java.util.Set;
 import java.util.TreeSet;
 import java.util.regex.Matcher;
 import java.util.regex.Pattern;
@@ -18,6 +19,8 @@ public final class RulesTest {
         "\\bequals\\b", "\\btoString\\b", "\\bdouble\\b", "\\bfloat\\b", "\\bprotected\\b", "\\bvolatile\\b",
         "\"\\s*\\+", "\\+\\s*\"", "\\brecord\\b", "\\binstanceof\\b", "\\bMath\\.(?!max|min)", "[^\\x00-\\x7F]"};
 
+    private static final Set<String> LISTED = Set.of("Integer.bitCount(", "Math.max(", "Math.min(", "System.arraycopy(");
+
     private RulesTest() {
     }
 
@@ -28,10 +31,20 @@ public final class RulesTest {
             KIT.due("rows with " + pattern, Pattern.compile(pattern).matcher(code).results().count(), 0);
         }
         KIT.due("imports", Pattern.compile("(?m)^import ").matcher(code).results().count(), 1);
+        library(code);
         face(Files.readString(Path.of("../shared/DOC.md")));
         classes();
         methods(code);
         KIT.close();
+    }
+
+    /** Of the library's classes nothing is asked but functions that rule 4 lists: no field of theirs either. */
+    private static void library(String code) {
+        String classes = "Integer|Long|Math|System|Arrays|String|Character|List";
+        Matcher use = Pattern.compile("\\b(" + classes + ")\\s*\\.\\s*\\w+\\(?").matcher(code);
+        while (use.find()) {
+            KIT.due(use.group() + " is listed", LISTED.contains(use.group()), true);
+        }
     }
 
     private static void face(String doc) {
